@@ -21,6 +21,7 @@ public final class FairLabels {
     private static final int MOST_BYTES = 400;
     private static final int MOST_SPAN = 20;
     private static final int MOST_SEEN = 30;
+    private static final int MOST_MARKS = 12;
 
     private static final int GRACEFUL = 0;
     private static final int ALPHA = 1;
@@ -36,20 +37,24 @@ public final class FairLabels {
     private final Net draft;
     private final Past past;
     private final Search search;
+    private final int[] marks;
+    private final int[] gaps;
     private int faultNumber;
     private int faultPlace;
 
     public FairLabels() {
         tape = new Tape();
-        reader = new Reader();
         out = new Tape();
         slots = new Net[MOST_SLOTS];
         for (int i = 0; i < MOST_SLOTS; i++) {
             slots[i] = new Net();
         }
         draft = new Net();
+        reader = new Reader(tape, draft);
         past = new Past();
-        search = new Search();
+        search = new Search(draft);
+        marks = new int[MOST_MARKS];
+        gaps = new int[MOST_MARKS * (MOST_MARKS - 1) / 2];
         faultNumber = 0;
         faultPlace = NONE;
     }
@@ -78,7 +83,7 @@ public final class FairLabels {
         if (!isSlot(slot)) {
             return NO_SUCH;
         }
-        boolean good = reader.readText(tape, draft);
+        boolean good = reader.readText();
         tape.length = 0;
         faultNumber = reader.faultNumber;
         faultPlace = reader.faultPlace;
@@ -334,7 +339,7 @@ public final class FairLabels {
         }
         draft.copyOf(net);
         draft.clearLabels();
-        search.census.begin(NONE, net.labels);
+        search.census.beginComparing(net.labels);
         search.run(draft, kind, false);
         return search.census.leastKey(net.points);
     }
@@ -348,7 +353,7 @@ public final class FairLabels {
             draft.copyOf(slots[slot]);
             draft.clearLabels();
             draft.removeLine(i);
-            search.census.begin(NONE, null);
+            search.census.begin();
             search.run(draft, kind, true);
             if (search.census.found > 0) {
                 bits |= 1 << i;
@@ -466,25 +471,21 @@ public final class FairLabels {
     }
 
     public int rule(int a, int b, int c) {
-        int[] marks = new int[12];
         int many = 0;
-        for (int i = 0; i < 12; i++) {
+        int twos = 0;
+        for (int i = 0; i < MOST_MARKS; i++) {
             int packed = i < 4 ? a : i < 8 ? b : c;
-            int mark = (packed >>> (i % 4 * 8)) & 255;
+            int mark = packed >>> 8 * (i % 4) & 255;
             if (mark != 255) {
+                for (int j = 0; j < many; j++) {
+                    gaps[twos] = Math.abs(mark - marks[j]);
+                    twos++;
+                }
                 marks[many] = mark;
                 many++;
             }
         }
-        boolean[] markThere = new boolean[256];
-        boolean[] differenceThere = new boolean[256];
-        for (int i = 0; i < many; i++) {
-            markThere[marks[i]] = true;
-            for (int j = 0; j < i; j++) {
-                differenceThere[Math.abs(marks[i] - marks[j])] = true;
-            }
-        }
-        return 100 * countTrue(markThere) + countTrue(differenceThere);
+        return 100 * unlikeIn(marks, many) + unlikeIn(gaps, twos);
     }
 
     public int drops(int slot) {
@@ -556,7 +557,7 @@ public final class FairLabels {
     }
 
     private void countCompletions(Net net, int kind) {
-        search.census.begin(NONE, null);
+        search.census.begin();
         search.run(net, kind, false);
     }
 
@@ -572,7 +573,7 @@ public final class FairLabels {
             if (draft.labels[p] != NONE && p > 0) {
                 continue;
             }
-            search.census.begin(p, null);
+            search.census.beginWatching(p);
             search.run(draft, kind, false);
             if (rest >= search.census.found) {
                 return false;
@@ -615,10 +616,15 @@ public final class FairLabels {
         out.putByte(';');
     }
 
-    private static int countTrue(boolean[] row) {
+    /** How many of the first numbers of a row are unlike all ahead of them. */
+    private static int unlikeIn(int[] numbers, int length) {
         int many = 0;
-        for (int i = 0; i < row.length; i++) {
-            if (row[i]) {
+        for (int i = 0; i < length && i < numbers.length; i++) {
+            int j = 0;
+            while (j < i && numbers[j] != numbers[i]) {
+                j++;
+            }
+            if (j == i) {
                 many++;
             }
         }
@@ -879,16 +885,19 @@ public final class FairLabels {
 
         int faultNumber = 0;
         int faultPlace = NONE;
-        private Tape tape = null;
-        private Net net = null;
+        private final Tape tape;
+        private final Net net;
         private int next = 0;
         private int start = 0;
         private int token = THE_END;
         private int value = 0;
 
-        boolean readText(Tape from, Net into) {
+        Reader(Tape from, Net into) {
             tape = from;
             net = into;
+        }
+
+        boolean readText() {
             net.clear(0);
             faultNumber = 0;
             faultPlace = NONE;
@@ -1285,41 +1294,47 @@ public final class FairLabels {
         final int[] labelsAt = new int[MOST_POINTS];
         private int watched = NONE;
         private final int[] tally = new int[MOST_VALUES];
-        private int[] target = null;
+        private boolean comparing = false;
+        private final int[] target = new int[MOST_POINTS];
         private final int[] agreeing = new int[1 << MOST_POINTS];
 
-        void begin(int watchedPoint, int[] targetLabels) {
+        void begin() {
             found = 0;
             Arrays.fill(labelsAt, 0);
-            watched = watchedPoint;
+            watched = NONE;
+            comparing = false;
+        }
+
+        /** Counts, too, how often a point has each label. */
+        void beginWatching(int point) {
+            begin();
+            watched = point;
             Arrays.fill(tally, 0);
-            target = targetLabels;
-            if (target != null) {
-                Arrays.fill(agreeing, 0);
-            }
+        }
+
+        /** Counts, too, on which points labels agree with these. */
+        void beginComparing(int[] labels) {
+            begin();
+            comparing = true;
+            System.arraycopy(labels, 0, target, 0, MOST_POINTS);
+            Arrays.fill(agreeing, 0);
         }
 
         void add(int[] labels, int points) {
             found++;
+            int same = 0;
             for (int p = 0; p < points; p++) {
                 labelsAt[p] |= 1 << labels[p];
+                if (labels[p] == target[p]) {
+                    same |= 1 << p;
+                }
             }
             if (watched != NONE) {
                 tally[labels[watched]]++;
             }
-            if (target != null) {
-                agreeing[agreement(labels, points)]++;
+            if (comparing) {
+                agreeing[same]++;
             }
-        }
-
-        private int agreement(int[] labels, int points) {
-            int bits = 0;
-            for (int p = 0; p < points; p++) {
-                if (labels[p] == target[p]) {
-                    bits |= 1 << p;
-                }
-            }
-            return bits;
         }
 
         /** The label that the watched point has in the completion of this rank. */
@@ -1400,7 +1415,7 @@ public final class FairLabels {
         private final int[] uses = new int[Census.MOST_VALUES];
         private final int[] order = new int[MOST_POINTS];
         private final int[] shifted = new int[MOST_POINTS];
-        private Net net = null;
+        private Net net;
         private int kind = GRACEFUL;
         private int top = 0;
         private int repeats = 0;
@@ -1411,12 +1426,16 @@ public final class FairLabels {
         private boolean onlyOne = false;
         private boolean stopped = false;
 
+        Search(Net anyNet) {
+            net = anyNet;
+        }
+
         /** Whether labels 0 .. most, all unlike, can have unlike differences. */
         boolean fitsSpan(Net ofNet, int most) {
             if (most == ofNet.lines && Kinds.isBarred(ofNet, GRACEFUL)) {
                 return false;
             }
-            census.begin(NONE, null);
+            census.begin();
             begin(ofNet, GRACEFUL, true);
             top = most;
             orderLonely();
