@@ -876,10 +876,6 @@ public final class FairLabels {
         private static final int NUMBER = 2;
         private static final int SIGN = 3;
 
-        private static final int OTHER_WORD = 0;
-        private static final int WORD_NET = 1;
-        private static final int WORD_LABELS = 2;
-
         /** Above all bounds, so that long numbers need not be held. */
         private static final int TOO_GREAT = 1000;
 
@@ -912,12 +908,20 @@ public final class FairLabels {
             return false;
         }
 
-        private boolean at(int kindOfToken, int itsValue) {
-            return token == kindOfToken && value == itsValue;
+        private boolean atSign(int sign) {
+            return token == SIGN && value == sign;
         }
 
-        private boolean pass(int kindOfToken, int itsValue) {
-            if (!at(kindOfToken, itsValue)) {
+        private boolean passSign(int sign) {
+            if (!atSign(sign)) {
+                return refuse(1);
+            }
+            advance();
+            return true;
+        }
+
+        private boolean passWord(String word) {
+            if (token != WORD || !spells(word)) {
                 return refuse(1);
             }
             advance();
@@ -925,7 +929,7 @@ public final class FairLabels {
         }
 
         private boolean readHead() {
-            if (!pass(WORD, WORD_NET)) {
+            if (!passWord("net")) {
                 return false;
             }
             if (token != NUMBER) {
@@ -940,13 +944,13 @@ public final class FairLabels {
         }
 
         private boolean readLines() {
-            for (int i = 0; i <= MOST_LINES && at(SIGN, i == 0 ? ':' : ','); i++) {
+            for (int i = 0; i <= MOST_LINES && atSign(i == 0 ? ':' : ','); i++) {
                 advance();
                 if (!readLine()) {
                     return false;
                 }
             }
-            return pass(SIGN, ';');
+            return passSign(';');
         }
 
         private boolean readLine() {
@@ -958,7 +962,7 @@ public final class FairLabels {
             }
             int a = value;
             advance();
-            if (!pass(SIGN, '-') || !atPoint()) {
+            if (!passSign('-') || !atPoint()) {
                 return false;
             }
             if (value == a) {
@@ -974,16 +978,16 @@ public final class FairLabels {
 
         private boolean readLabels() {
             for (int i = 0; i < MOST_BYTES && token != THE_END; i++) {
-                if (!pass(WORD, WORD_LABELS) || !readLabel()) {
+                if (!passWord("labels") || !readLabel()) {
                     return false;
                 }
-                for (int j = 0; j < MOST_POINTS && at(SIGN, ','); j++) {
+                for (int j = 0; j < MOST_POINTS && atSign(','); j++) {
                     advance();
                     if (!readLabel()) {
                         return false;
                     }
                 }
-                if (!pass(SIGN, ';')) {
+                if (!passSign(';')) {
                     return false;
                 }
             }
@@ -999,7 +1003,7 @@ public final class FairLabels {
                 return refuse(3);
             }
             advance();
-            if (!pass(SIGN, '=')) {
+            if (!passSign('=')) {
                 return false;
             }
             if (token != NUMBER) {
@@ -1059,13 +1063,9 @@ public final class FairLabels {
 
         private void takeWord() {
             token = WORD;
-            for (; next < tape.length && isLetter(tape.bytes[next]); next++) {
-                value = OTHER_WORD;
-            }
-            if (spells("net")) {
-                value = WORD_NET;
-            } else if (spells("labels")) {
-                value = WORD_LABELS;
+            value = 0;
+            while (next < tape.length && isLetter(tape.bytes[next])) {
+                next++;
             }
         }
 
@@ -1157,7 +1157,7 @@ public final class FairLabels {
             if (kind != EVEN && hasLikeWorths(net, kind)) {
                 return 4;
             }
-            return hasShape(net, net.labels, kind) ? 0 : 5;
+            return hasShape(net, kind) ? 0 : 5;
         }
 
         private static int repeats(Net net) {
@@ -1183,20 +1183,20 @@ public final class FairLabels {
         }
 
         /** What a kind asks beyond bounds, unlike labels and unlike worths. */
-        static boolean hasShape(Net net, int[] labels, int kind) {
+        private static boolean hasShape(Net net, int kind) {
             switch (kind) {
                 case ALPHA:
-                    return isSplit(net, labels);
+                    return isSplit(net, net.labels);
                 case ODD:
-                    return allOdd(net, labels);
+                    return allOdd(net);
                 case EVEN:
-                    return isBalanced(net, labels);
+                    return isBalanced(net, net.labels);
                 default:
                     return true;
             }
         }
 
-        private static boolean isSplit(Net net, int[] labels) {
+        static boolean isSplit(Net net, int[] labels) {
             int greatestLower = NONE;
             int leastUpper = MOST_LABEL + 1;
             for (int i = 0; i < net.lines; i++) {
@@ -1208,16 +1208,16 @@ public final class FairLabels {
             return greatestLower < leastUpper;
         }
 
-        private static boolean allOdd(Net net, int[] labels) {
+        private static boolean allOdd(Net net) {
             for (int i = 0; i < net.lines; i++) {
-                if (((labels[net.low[i]] ^ labels[net.high[i]]) & 1) == 0) {
+                if (net.differenceOf(i) % 2 == 0) {
                     return false;
                 }
             }
             return true;
         }
 
-        private static boolean isBalanced(Net net, int[] labels) {
+        static boolean isBalanced(Net net, int[] labels) {
             int ones = 0;
             for (int p = 0; p < net.points; p++) {
                 ones += labels[p];
@@ -1672,7 +1672,7 @@ public final class FairLabels {
         }
 
         private void keep() {
-            if (!Kinds.hasShape(net, labels, kind)) {
+            if (kind == ALPHA && !Kinds.isSplit(net, labels) || kind == EVEN && !Kinds.isBalanced(net, labels)) {
                 return;
             }
             census.add(labels, net.points);

@@ -11,7 +11,7 @@ public final class OracleTest {
     private static int calls = 0;
 
     public static void main(String[] args) {
-        for (int seed = 0; seed < 150; seed++) {
+        for (int seed = 0; seed < 100; seed++) {
             oneRun(new Random(seed), seed);
         }
         System.out.println(calls + " calls, " + wrong + " answers are not as due");
@@ -64,7 +64,7 @@ public final class OracleTest {
         int p = point(r);
         int q = point(r);
         int i = r.nextInt(10) == 0 ? r.nextInt(40) - 10 : r.nextInt(6);
-        int which = r.nextInt(44);
+        int which = r.nextInt(46);
         switch (which) {
             case 0: case 1: case 2:
                 return tellText(r, x, m, log, s);
@@ -159,6 +159,13 @@ public final class OracleTest {
             }
             case 41:
                 return r.nextInt(4) > 0 || same(log, "drops " + s, x.drops(s), m.drops(s));
+            case 44: {
+                boolean good = true;
+                for (int at = 0; good && at < 7; at++) {
+                    good = same(log, "sets " + s + " " + at + " -1", x.sets(s, at, -1), m.sets(s, at, -1));
+                }
+                return good;
+            }
             case 42:
                 return same(log, "undo", x.undo(), m.undo());
             default: {
@@ -196,7 +203,36 @@ public final class OracleTest {
             && same(log, "fault 1", x.fault(1), m.fault(1));
     }
 
+    /** A net without faults: a tree, one with two sides, or any; some labels. */
+    private static String goodText(Random r) {
+        int n = 1 + r.nextInt(7);
+        int shape = r.nextInt(3);
+        List<String> lines = new ArrayList<>();
+        int cut = 1 + r.nextInt(n);
+        for (int b = 1; b < n; b++) {
+            int must = r.nextInt(b);
+            for (int a = 0; a < b; a++) {
+                boolean on = shape == 0 ? a == must : r.nextInt(5) < 3 && (shape == 1 || a < cut != b < cut);
+                if (on && lines.size() < 10) {
+                    lines.add(r.nextBoolean() ? a + "-" + b : b + "-" + a);
+                }
+            }
+        }
+        java.util.Collections.shuffle(lines, r);
+        StringBuilder b = new StringBuilder("net ").append(n);
+        b.append(lines.isEmpty() ? "" : ":").append(String.join(",", lines)).append(";");
+        for (int p = 0; p < n; p++) {
+            if (r.nextInt(6) == 0) {
+                b.append("labels ").append(p).append("=").append(r.nextInt(1 + lines.size())).append(";");
+            }
+        }
+        return b.toString();
+    }
+
     private static String text(Random r) {
+        if (r.nextBoolean()) {
+            return goodText(r);
+        }
         StringBuilder b = new StringBuilder();
         int n = r.nextInt(20) == 0 ? r.nextInt(12) : 1 + r.nextInt(7);
         gap(r, b).append("net");
@@ -244,6 +280,10 @@ public final class OracleTest {
         int n;
         boolean[][] on = new boolean[7][7];
         int[] label = {-1, -1, -1, -1, -1, -1, -1};
+        /** How many lines, told once while completions are listed. */
+        int e = -1;
+        /** A net in a slot is never changed, only another one put there. */
+        java.util.Map<Integer, List<int[]>> listed = new java.util.HashMap<>();
 
         Graph(int n) {
             this.n = n;
@@ -421,9 +461,13 @@ public final class OracleTest {
 
         /** All completions in order; partial labels are looked at only so that it ends soon. */
         List<int[]> completions(int kind) {
-            List<int[]> found = new ArrayList<>();
-            fill(copy(), kind, bound(kind), 0, found);
-            return found;
+            if (!listed.containsKey(kind)) {
+                listed.put(kind, new ArrayList<>());
+                Graph g = copy();
+                g.e = e();
+                fill(g, kind, bound(kind), 0, listed.get(kind));
+            }
+            return listed.get(kind);
         }
 
         private static void fill(Graph g, int kind, int bound, int p, List<int[]> found) {
@@ -453,13 +497,12 @@ public final class OracleTest {
             }
             int alike = 0;
             long worths = 0;
-            int e = e();
             for (int p = 0; p < n; p++) {
                 for (int q = 0; q < p; q++) {
                     if (label[p] >= 0 && label[q] >= 0) {
                         alike += label[p] == label[q] ? 1 : 0;
                         if (on[p][q]) {
-                            int w = worth(new int[] {p, q}, kind, e);
+                            int w = kind == 2 ? (label[p] + label[q]) % e : Math.abs(label[p] - label[q]);
                             if (w > 60 || (worths >> w & 1) != 0 || kind == 3 && w % 2 == 0) {
                                 return false;
                             }

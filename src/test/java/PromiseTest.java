@@ -206,6 +206,12 @@ public final class PromiseTest {
         faulty("nets 2;", 1, 0);
         faulty("netnet 2;", 1, 0);
         faulty("Net 2;", 1, 0);
+        faulty("netz 2;", 1, 0);
+        faulty("anet 2;", 1, 0);
+        faulty("net{2;", 1, 3);
+        faulty("net`2;", 1, 3);
+        faulty("net/2;", 1, 3);
+        faulty("net 2;labelz 0=1;", 1, 6);
         faulty(" labels 2;", 1, 1);
         faulty("net", 1, 3);
         faulty("net ;", 1, 4);
@@ -310,6 +316,12 @@ public final class PromiseTest {
         x = with("net 4:0-1,1-2,0-2;");
         due(x.look(0, 3), 0);
         due(x.look(0, 5), 2);
+        due(with("net 4:0-2,1-3;").look(0, 4), 1);
+        due(with("net 7:0-3,3-5,5-0,1-2;").look(0, 4), 0);
+        due(with("net 7:1-2,4-5,5-6,6-4;").look(0, 4), 0);
+        due(with("net 7:0-6,6-1,1-5,5-2,2-4,4-3;").look(0, 4), 1);
+        due(with("net 7:0-6,6-1,1-5,5-2,2-4,4-3;").look(0, 5), 1);
+        due(with("net 7:0-6,6-1,1-5,5-2,2-4,4-3,3-0;").look(0, 4), 0);
         x = with("net 6:5-0,5-1,5-2,4-2,4-3;");
         due(x.look(0, 3), 1);
         due(x.look(0, 4), 1);
@@ -506,6 +518,14 @@ public final class PromiseTest {
         completions("net 3:0-1,1-2,0-2;", 12, 0, 6, 0, 6);
         completions("net 3:0-1,1-2,0-2;labels 0=0,1=1;", 1, 0, 1, 0, 2);
         completions("net 3:0-1,1-2,0-2;labels 0=1,1=1;", 0, 0, 0, 0, 1);
+        // trees have one label twice: no 0,0,1,1 though its sums are unlike
+        due(with("net 3:0-1,1-2;").many(0, 2), 4);
+        due(with("net 4:0-1,1-2,2-3;").many(0, 2), 12);
+        due(with("net 4:0-1,1-2,2-3;labels 0=0,1=0,2=1;").many(0, 2), 0);
+        due(with("net 4:0-1,1-2,2-3;labels 0=1,1=0,2=0;").many(0, 2), 1);
+        // two lines and a point alone: E is 2, and three points are more
+        due(with("net 4:0-1,2-3;").many(0, 0), 0);
+        due(with("net 4:0-1,2-3;").many(0, 3), 8);
         // a star of six: the middle one has 0 or 6, the others what is left
         due(with("net 7:0-1,0-2,0-3,0-4,0-5,0-6;").many(0, 0), 1440);
         due(with("net 7:0-1,0-2,0-3,0-4,0-5,0-6;").many(0, 1), 1440);
@@ -532,6 +552,9 @@ public final class PromiseTest {
         due(x.row(0, 0, 0, -1), -2);
         due(x.row(1, 0, 0, 0), -2);
         due(x.row(0, 1, 0, 0), -1);
+        due(with("net 1;").row(0, 0, 0, 0), 0);
+        due(with("net 1;").row(0, 0, 1, 0), -1);
+        due(with("net 3:0-1,1-2;labels 1=2,2=1;").row(0, 0, 0, 0), 0);
         x.sets(0, 1, 3);
         due(x.row(0, 0, 0, 2), 1);
         due(x.row(0, 0, 1, 2), 2);
@@ -557,6 +580,10 @@ public final class PromiseTest {
         due(x.count(1), 2);
         due(x.undo(), 1);
         labels(x, 0, "-,3,-");
+        x = with("net 3:0-1,1-2;labels 1=2,2=1;");
+        due(x.takes(0, 0, 0), 1);
+        due(x.count(1), 2);
+        labels(x, 0, "0,2,1");
     }
 
     private static void could() {
@@ -620,6 +647,7 @@ public final class PromiseTest {
         x = with("net 3:0-1,1-2;labels 0=1;");
         due(x.many(0, 0), 2);
         due(x.unlike(0, 0), 1);
+        due(with("net 4:0-1,1-2,2-3;").unlike(0, 2), 4);
         due(x.unlike(0, 5), -2);
         due(x.unlike(2, 0), -2);
     }
