@@ -155,7 +155,7 @@ public final class FairLabels {
     }
 
     public int adds(int slot, int a, int b) {
-        if (!hasPoint(slot, a) || !hasPoint(slot, b) || a == b) {
+        if (!hasTwoPoints(slot, a, b)) {
             return NO_SUCH;
         }
         Net net = slots[slot];
@@ -168,7 +168,7 @@ public final class FairLabels {
     }
 
     public int cuts(int slot, int a, int b) {
-        if (!hasPoint(slot, a) || !hasPoint(slot, b)) {
+        if (!hasTwoPoints(slot, a, b)) {
             return NO_SUCH;
         }
         Net net = slots[slot];
@@ -539,6 +539,11 @@ public final class FairLabels {
 
     private boolean hasPoint(int slot, int p) {
         return hasNet(slot) && p >= 0 && p < slots[slot].points;
+    }
+
+    /** A point and itself are not two, so that no line between them can be asked for. */
+    private boolean hasTwoPoints(int slot, int a, int b) {
+        return hasPoint(slot, a) && hasPoint(slot, b) && a != b;
     }
 
     private int filledSlots() {

@@ -784,7 +784,7 @@ public final class OracleTest {
         }
 
         int cuts(int s, int a, int b) {
-            if (noPoint(s, a) || noPoint(s, b)) {
+            if (noPoint(s, a) || noPoint(s, b) || a == b) {
                 return -2;
             }
             if (!net(s).on[a][b]) {

@@ -369,8 +369,11 @@ public final class PromiseTest {
         due(x.cuts(0, 0, 4), -2);
         due(x.cuts(0, -1, 0), -2);
         due(x.cuts(2, 0, 1), -2);
-        due(x.cuts(0, 1, 1), -6);
+        due(x.cuts(0, 1, 1), -2);
+        due(x.cuts(0, 0, 0), -2);
+        due(x.cuts(0, 4, 4), -2);
         due(x.count(1), 1);
+        lines(x, 0, "net4:0-1,1-2,2-3;");
         due(x.cuts(0, 2, 1), 2);
         lines(x, 0, "net4:0-1,2-3;");
         due(x.label(0, 1), 5);
