@@ -114,14 +114,12 @@ final class Sentences {
 
     private static void wrong(String what) {
         wrong++;
-        int at = 0;
+        StringBuilder at = new StringBuilder();
         for (StackTraceElement e : new Throwable().getStackTrace()) {
-            if (!e.getClassName().equals("Sentences")) {
-                at = e.getLineNumber();
-                break;
-            }
+            boolean ofTest = !e.getClassName().equals("Sentences") && !e.getMethodName().equals("main");
+            at.append(ofTest ? " " + e.getLineNumber() : "");
         }
-        System.out.println(section + " \"" + sentence + "\", line " + at + ": " + what);
+        System.out.println(section + " \"" + sentence + "\", line" + at + ": " + what);
     }
 
     /** Without the document beside the project, sentences are not looked up. */
