@@ -200,6 +200,23 @@ public final class PromiseBoundaryTest {
         due(x.end(0), 0);
         due(x.told(0), -4);
         due(x.fault(1), 0);
+        // a token ends where the tape ends, whatever was behind it
+        Sentences.lay(x, "net 12;");
+        due(x.end(5), 5);
+        due(x.told(0), -4);
+        due(x.fault(0), 1);
+        due(x.fault(1), 5);
+        Sentences.lay(x, "nets 12;");
+        due(x.end(3), 3);
+        due(x.told(0), -4);
+        due(x.fault(1), 3);
+        Sentences.lay(x, "net 2; \n; ");
+        due(x.end(6), 6);
+        due(x.told(0), 0);
+        Sentences.lay(x, "net 2   ;");
+        due(x.end(6), 6);
+        due(x.told(0), -4);
+        due(x.fault(1), 6);
         says("NONE, and nothing happens, if it has not so many, or n is below 0.");
         stays(FairLabels::new, o -> o.end(1), -1);
         stays(FairLabels::new, o -> o.end(-1), -1);
@@ -721,9 +738,12 @@ public final class PromiseBoundaryTest {
         manyAre(RING, 12, 0, 6, 0, 6);
         manyAre(GOOD_PATH, 1, 1, 0, 0, 0);
         manyAre(PATH + "labels 0=0,1=0,2=1;", 0, 0, 1, 0, 1);
+        manyAre("net 4:0-1,0-2,1-2;", 12, 0, 0, 0, 6);
         manyAre(PATH + "labels 2=99;", 0, 0, 0, 0, 0);
         // seven points, six lines: the middle one has 0 or 6, the others what is left
         due(with("net 7:0-1,0-2,0-3,0-4,0-5,0-6;").many(0, 0), 1440);
+        // of HARMONIOUS the six have all labels, the middle one any
+        due(with("net 7:0-1,0-2,0-3,0-4,0-5,0-6;").many(0, 2), 4320);
         stays(having(PATH), o -> o.many(0, 0), 4);
         says("-2.");
         due(with(PATH).many(0, 5), -2);
@@ -739,7 +759,12 @@ public final class PromiseBoundaryTest {
         for (int i = 0; i < rows.length(); i++) {
             due(x.row(0, 0, i / 3, i % 3), rows.charAt(i) - '0');
         }
-        due(with(GOOD_PATH).row(0, 0, 0, 2), 1);
+        for (int p = 0; p < 3; p++) {
+            due(with(GOOD_PATH).row(0, 0, 0, p), "021".charAt(p) - '0');
+            due(with(PATH + "labels 1=2,2=1;").row(0, 0, 0, p), "021".charAt(p) - '0');
+            due(with(PATH + "labels 0=0;").row(0, 0, 0, p), "021".charAt(p) - '0');
+        }
+        due(with("net 1;").row(0, 0, 0, 0), 0);
         due(with("net 1;").row(0, 4, 0, 0), 0);
         due(with("net 1;").row(0, 4, 1, 0), 1);
         FairLabels star = with("net 7:0-1,0-2,0-3,0-4,0-5,0-6;");
@@ -873,6 +898,7 @@ public final class PromiseBoundaryTest {
         // 1 turned by 2 stays 1
         unlikeAre(PATH + "labels 0=1;", 1, 1, 2, 1, 2);
         unlikeAre(PATH + "labels 0=50;", 0, 0, 0, 0, 0);
+        due(with("net 7:0-1,0-2,0-3,0-4,0-5,0-6;").unlike(0, 0), 720);
         says("(of HARMONIOUS: that are one another with LABELS more by some number, modulo LINES).");
         due(with("net 2:0-1;").unlike(0, 2), 1);
         // 001, 011, 100, 110: with 1 more each, 110, 100, 011, 001
@@ -883,6 +909,7 @@ public final class PromiseBoundaryTest {
         due(with(RING + "labels 2=1;").unlike(0, 2), 2);
         due(with("net 4:0-1,1-2,2-3;").many(0, 2), 12);
         due(with("net 4:0-1,1-2,2-3;").unlike(0, 2), 4);
+        due(with("net 7:0-1,0-2,0-3,0-4,0-5,0-6;").unlike(0, 2), 720);
         due(with("net 1;").unlike(0, 2), 0);
         says("-2.");
         due(with(PATH).unlike(0, 5), -2);
@@ -938,6 +965,10 @@ public final class PromiseBoundaryTest {
         due(x.key(0, 0), 64 | 2 | 4 | 8 | 16);
         due(x.reverse(0), 7);
         due(x.key(0, 0), 64 | 2 | 4 | 8 | 16);
+        // of its own net, whatever came since
+        x.family(0, 3, 0, 1);
+        due(x.key(0, 0), 64 | 2 | 4 | 8 | 16);
+        due(x.key(1, 0), 1);
         says("-6: LABELS are not of the KIND;");
         due(with(PATH).key(0, 0), -6);
         due(with(PATH + "labels 0=0,1=2;").key(0, 0), -6);
@@ -1014,6 +1045,14 @@ public final class PromiseBoundaryTest {
         due(with("net 6:0-1,0-5,1-2,2-3,3-4,4-5;").span(0), 7);
         due(with("net 4:0-1,0-2,0-3,1-2,1-3,2-3;").span(0), 6);
         due(with("net 5:0-1,0-2,0-3,0-4,1-2,1-3,1-4,2-3,2-4,3-4;").span(0), 11);
+        // not barred, and yet more than E and than POINTS less 1
+        due(with("net 5:0-4,1-2,1-3,2-3;").span(0), 5);
+        due(with("net 6:0-4,0-5,1-2,1-3,2-3;").span(0), 6);
+        due(with("net 6:0-2,0-3,0-4,0-5,1-2,1-3,1-4,1-5,2-5,3-4;").span(0), 11);
+        due(with("net 7:0-1,0-6,1-6,2-3,2-4,2-5,3-4,3-5,4-5;").span(0), 10);
+        FairLabels x = with("net 5:0-4,1-2,1-3,2-3;");
+        due(x.many(0, 4) > 0 ? 1 : 0, 1);
+        due(x.span(0), 5);
         due(with(PATH + "labels 0=99,1=99,2=99;").span(0), 2);
         due(with(PATH + "labels 0=1,1=1,2=1;").span(0), 2);
         stays(having(GOOD_PATH), o -> o.span(0), 2);
@@ -1244,6 +1283,10 @@ public final class PromiseBoundaryTest {
         lines(x, 0, "0-1,1-2,2-3,3-4");
         // the other one may be without lines
         due(pair(GOOD_PATH, one).grafts(0, 1, 2), 3);
+        x = with(one);
+        x.family(0, 7, 0, 1);
+        due(x.grafts(1, 0, 2), 7);
+        labels(x, 2, "0,6,1,5,2,4,3");
         says("-5: there would be more than 7, or more than 10 LINES;");
         stays(() -> pair(four, "net 5:0-1,1-2,2-3,3-4;labels 0=0,1=4,2=1,3=3,4=2;"), o -> o.grafts(0, 1, 2), -5);
         stays(() -> pair(fullFour, "net 4:0-1,0-2,0-3,1-2,2-3;labels 0=0,1=5,2=1,3=3;"), o -> o.grafts(0, 1, 2), -5);

@@ -151,6 +151,16 @@ public final class TermsBoundaryTest {
         faulty("net 3;net 3;", 1, 6);
         faulty("net 3;labels 0=1;;", 1, 17);
         faulty("labels 0=1;", 1, 0);
+        faulty(";", 1, 0);
+        faulty(":0-1;", 1, 0);
+        faulty("3:0-1;", 1, 0);
+        faulty("net 3;labels 0;", 1, 14);
+        faulty("net 3;labels 0,1=2;", 1, 14);
+        faulty("net 3;labels 0=;", 1, 15);
+        faulty("net 3;labels =1;", 1, 13);
+        faulty("net 3:0;", 1, 7);
+        faulty("net 3:0,1-2;", 1, 7);
+        faulty("net 3:-1;", 1, 6);
         faulty("net 3labels 0=1;", 1, 5);
     }
 
@@ -170,6 +180,13 @@ public final class TermsBoundaryTest {
         faulty("ne t 3;", 1, 0);
         faulty("net 3;la bels 0=1;", 1, 6);
         faulty("net 3;labels 0=1 2;", 1, 17);
+        // a word is one of the text's with all of its letters
+        for (String word : new String[] {"met", "nat", "nes", "ne", "et", "net" + 'a', "a"}) {
+            faulty(word + " 3;", 1, 0);
+        }
+        for (String word : new String[] {"mabels", "lbbels", "lacels", "labals", "labems", "labelt", "label", "abels"}) {
+            faulty("net 3;" + word + " 0=1;", 1, 6);
+        }
         // the longest word, the longest number
         faulty("netlabels 3;", 1, 0);
         faulty("neta;", 1, 0);
@@ -305,6 +322,11 @@ public final class TermsBoundaryTest {
         look("net 1;", 4, 1);
         look("net 7;", 4, 1);
         look("net 7:0-1,2-3,2-4,3-4;", 4, 0);
+        look("net 6:0-2,0-4,2-4;", 4, 0);
+        look("net 7:1-3,1-5,3-5;", 4, 0);
+        look("net 7:2-4,2-6,4-6;", 4, 0);
+        look("net 7:0-1,0-2,0-3,1-4,2-5,3-6,4-5;", 4, 0);
+        look("net 7:0-1,0-2,0-3,1-4,2-5,3-6,1-5,3-4;", 4, 1);
         look("net 7:0-1,0-2,1-2,3-4;", 4, 0);
         look("net 6:0-1,2-3,4-5;", 4, 1);
         look("net 7:0-6,6-1,1-5,5-2,2-4,4-3,0-3;", 4, 0);
@@ -507,6 +529,18 @@ public final class TermsBoundaryTest {
             due(with(path + "labels 0=" + (most[kind] + 1) + ";").many(0, kind), 0);
             due(with(path + "labels 0=99;").many(0, kind), 0);
         }
+        // of labels told, one at the first point alone
+        Sentences.same(rows(with(path + "labels 0=1;"), 2), "100 110");
+        Sentences.same(rows(with(path + "labels 0=0;"), 2), "001 011");
+        Sentences.same(rows(with(path + "labels 0=1;"), 4), "100 110");
+        Sentences.same(rows(with(path + "labels 0=1;"), 3), "103");
+        // points without lines have labels, too
+        Sentences.same(rows(with("net 4:0-1,0-2,1-2;labels 0=0,1=1;"), 0), "0132");
+        Sentences.same(rows(with("net 4:1-2,1-3,2-3;labels 1=0,2=1;"), 0), "2013");
+        Sentences.same(rows(with("net 4:0-1,1-2;"), 3), "0321 1032 2301 3012");
+        Sentences.same(rows(with("net 5:0-1,1-2,2-3;labels 0=0,1=5,2=2,3=3;"), 3), "05231 05234");
+        Sentences.same(rows(with("net 5:1-2,2-3,3-4;labels 1=0,2=5,3=2,4=3;"), 3), "10523 40523");
+        Sentences.same(rows(with("net 3:1-2;labels 1=0;"), 4), "001 100 101");
         // labels of two digits, by number and not as texts
         FairLabels x = with("net 7:0-2,0-3,0-4,0-5,0-6,1-2,1-3,1-4,1-5,1-6;labels 0=0,1=1,2=2,3=4,4=6;");
         due(x.many(0, 0), 2);
