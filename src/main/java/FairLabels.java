@@ -454,10 +454,11 @@ public final class FairLabels {
             return NO_ROOM;
         }
         int k = Kinds.edgeOf(one);
-        if (k == NONE || Kinds.reasonAgainst(two, GRACEFUL) != 0) {
+        int root = two.pointWith(0);
+        if (k == NONE || root == NONE || Kinds.reasonAgainst(two, GRACEFUL) != 0) {
             return NOT_SO;
         }
-        Maker.makeGraft(draft, one, two, k);
+        Maker.makeGraft(draft, one, two, k, root);
         keepDraft(to);
         return slots[to].points;
     }
@@ -1772,9 +1773,11 @@ public final class FairLabels {
             return true;
         }
 
-        static void makeGraft(Net net, Net one, Net two, int k) {
+        static void makeGraft(Net net, Net one, Net two, int k, int root) {
             int joint = one.pointWith(k);
-            int root = two.pointWith(0);
+            if (joint == NONE) {
+                return;
+            }
             net.copyOf(one);
             net.points = one.points + two.points - 1;
             for (int p = 0; p < one.points; p++) {
