@@ -1,12 +1,17 @@
 import java.util.ArrayList;
+import java.util.Arrays;
 import java.util.List;
+import java.util.Random;
 
 /**
  * Every net that there can be, those that differ in the numbers of their points
- * taken once: what its shape is, what is barred, its least span, and for each
- * kind what is asked of all its labellings, against plain lists of them.
+ * taken once: what its shape is, what is barred, its least span, lines that it
+ * can spare, and for each kind what is asked of all its labellings, without
+ * labels and with some of them told, against plain lists of them.
  */
 public final class EveryNetTest {
+    private static final int KINDS = 5;
+    private static final int TOLD_ROWS = 8;
     private static int asked = 0;
     private static int wrong = 0;
     private static int greatestSpan = 0;
@@ -37,20 +42,41 @@ public final class EveryNetTest {
     private static int everyNet(int n) {
         int twos = n * (n - 1) / 2;
         boolean[] met = new boolean[1 << twos];
+        byte[] kindsOf = new byte[1 << twos];
+        List<Integer> chosen = new ArrayList<>();
         List<int[]> orders = new ArrayList<>();
         addOrders(firstOrder(n), 0, orders);
-        int nets = 0;
         for (int net = 0; net < 1 << twos; net++) {
             if (!met[net] && Integer.bitCount(net) <= 10) {
+                // Another order than the least one, so that lines do not crowd at the first points.
+                chosen.add(renumbered(net, n, orders.get(net % orders.size())));
+                byte kinds = askNet(new Given(n, chosen.get(chosen.size() - 1)));
                 for (int[] order : orders) {
                     met[renumbered(net, n, order)] = true;
+                    kindsOf[renumbered(net, n, order)] = kinds;
                 }
-                // Another order than the least one, so that lines do not crowd at the first points.
-                askNet(new Given(n, renumbered(net, n, orders.get(net % orders.size()))));
-                nets++;
             }
         }
-        return nets;
+        for (int net : chosen) {
+            askSpares(new Given(n, net), net, kindsOf);
+        }
+        return chosen.size();
+    }
+
+    /** The net without a line is one of those looked at, so that its kinds are there. */
+    private static void askSpares(Given g, int net, byte[] kindsOf) {
+        FairLabels x = g.laid();
+        x.sets(0, g.n - 1, 99);
+        int[] spares = new int[KINDS];
+        for (int rest = net, i = 0; rest != 0; rest &= rest - 1, i++) {
+            int without = net & ~Integer.lowestOneBit(rest);
+            for (int kind = 0; kind < KINDS; kind++) {
+                spares[kind] |= (kindsOf[without] >> kind & 1) << i;
+            }
+        }
+        for (int kind = 0; kind < KINDS; kind++) {
+            due(g + " kind " + kind + " spares", x.spares(0, kind), spares[kind]);
+        }
     }
 
     private static int[] firstOrder(int n) {
@@ -87,7 +113,8 @@ public final class EveryNetTest {
         return bits;
     }
 
-    private static void askNet(Given g) {
+    /** Asks all of a net, and answers the kinds that it has, as bits. */
+    private static byte askNet(Given g) {
         FairLabels x = g.laid();
         due(g + " tree", x.look(0, 3), g.isTree() ? 1 : 0);
         due(g + " two-sided", x.look(0, 4), g.isTwoSided() ? 1 : 0);
@@ -95,22 +122,68 @@ public final class EveryNetTest {
         int span = g.span();
         greatestSpan = Math.max(greatestSpan, span);
         due(g + " span", x.span(0), span);
-        for (int kind = 0; kind < 5; kind++) {
-            askKind(g, kind);
+        byte kinds = 0;
+        for (int kind = 0; kind < KINDS; kind++) {
+            List<int[]> all = g.labellings(kind);
+            kinds |= (byte) (all.isEmpty() ? 0 : 1 << kind);
+            askKind(g, kind, all);
+            askTold(g, kind, all);
+        }
+        return kinds;
+    }
+
+    private static void askKind(Given g, int kind, List<int[]> all) {
+        int[] none = new int[g.n];
+        Arrays.fill(none, FairLabels.NONE);
+        FairLabels x = g.laid();
+        if (!all.isEmpty()) {
+            due(g + " kind " + kind + " bars", x.bars(0, kind), 0);
+        }
+        askCompletions(x, g, kind, all, none);
+        if (!all.isEmpty()) {
+            askKey(x, g + " kind " + kind, kind, all);
         }
     }
 
-    private static void askKind(Given g, int kind) {
-        FairLabels x = g.laid();
-        List<int[]> all = g.labellings(kind);
-        String of = g + " kind " + kind;
-        if (!all.isEmpty()) {
-            due(of + " bars", x.bars(0, kind), 0);
+    /** Labels of some points are told, most of them as one labelling has them. */
+    private static void askTold(Given g, int kind, List<int[]> all) {
+        Random r = new Random(31L * g.toString().hashCode() + kind);
+        for (int i = 0; i < TOLD_ROWS; i++) {
+            int[] told = new int[g.n];
+            int[] like = all.isEmpty() ? told.clone() : all.get(r.nextInt(all.size()));
+            for (int p = 0; p < g.n; p++) {
+                boolean other = r.nextInt(8) == 0;
+                told[p] = r.nextInt(3) > 0 ? FairLabels.NONE : other ? r.nextInt(22) : like[p];
+            }
+            FairLabels x = g.laid();
+            List<int[]> left = new ArrayList<>();
+            for (int p = 0; p < g.n; p++) {
+                x.sets(0, p, told[p]);
+            }
+            for (int[] row : all) {
+                if (agrees(row, told)) {
+                    left.add(row);
+                }
+            }
+            askCompletions(x, g, kind, left, told);
         }
+    }
+
+    private static boolean agrees(int[] row, int[] told) {
+        for (int p = 0; p < row.length; p++) {
+            if (told[p] != FairLabels.NONE && told[p] != row[p]) {
+                return false;
+            }
+        }
+        return true;
+    }
+
+    private static void askCompletions(FairLabels x, Given g, int kind, List<int[]> all, int[] told) {
+        String of = g + " kind " + kind + " told " + Arrays.toString(told);
         due(of + " many", x.many(0, kind), all.size());
-        due(of + " unlike", x.unlike(0, kind), unlike(g, kind, all));
+        due(of + " unlike", x.unlike(0, kind), unlike(g, kind, all, told));
         int sure = 0;
-        int hint = all.isEmpty() ? -6 : 0;
+        int hint = FairLabels.NONE;
         int[] could = new int[g.n];
         for (int p = 0; p < g.n; p++) {
             for (int[] row : all) {
@@ -118,16 +191,14 @@ public final class EveryNetTest {
             }
             due(of + " could " + p, x.could(0, kind, p), could[p]);
             sure |= Integer.bitCount(could[p]) == 1 ? 1 << p : 0;
-            if (!all.isEmpty() && Integer.bitCount(could[p]) < Integer.bitCount(could[hint])) {
+            if (told[p] == FairLabels.NONE
+                && (hint == FairLabels.NONE || Integer.bitCount(could[p]) < Integer.bitCount(could[hint]))) {
                 hint = p;
             }
         }
         due(of + " sure", x.sure(0, kind), sure);
-        due(of + " hint", x.hint(0, kind), hint);
+        due(of + " hint", x.hint(0, kind), all.isEmpty() && hint != FairLabels.NONE ? -6 : hint);
         askRows(x, of, kind, all);
-        if (!all.isEmpty()) {
-            askKey(x, of, kind, all);
-        }
     }
 
     private static void askRows(FairLabels x, String of, int kind, List<int[]> all) {
@@ -171,8 +242,8 @@ public final class EveryNetTest {
         due(of + " one is left", x.many(0, kind), 1);
     }
 
-    /** Of those that are one another turned (or shifted), only the least counts. */
-    private static int unlike(Given g, int kind, List<int[]> all) {
+    /** Of those that are one another turned (or shifted), only the least that is there counts. */
+    private static int unlike(Given g, int kind, List<int[]> all, int[] told) {
         int e = g.lines.size();
         int many = 0;
         for (int[] row : all) {
@@ -183,7 +254,7 @@ public final class EveryNetTest {
                     int turned = (kind == 3 ? 2 * e - 1 : kind == 4 ? 1 : e) - row[p];
                     other[p] = kind == 2 ? (row[p] + more) % e : turned;
                 }
-                least &= java.util.Arrays.compare(row, other) <= 0;
+                least &= Arrays.compare(row, other) <= 0 || !agrees(other, told);
             }
             many += least ? 1 : 0;
         }
@@ -328,7 +399,7 @@ public final class EveryNetTest {
             int ones = 0;
             int odd = 0;
             boolean[] splits = new boolean[21];
-            java.util.Arrays.fill(splits, true);
+            Arrays.fill(splits, true);
             for (int l : row) {
                 ones += l;
             }
